@@ -4,15 +4,27 @@ final class Checks {
     private int made = 0;
 
     void due(String call, long got, long want) {
-        made++;
-        if (got != want) {
-            wrong++;
-            System.out.println(call + " answered " + got + ", due is " + want);
-        }
+        count(got == want, call, String.valueOf(got), String.valueOf(want));
+    }
+
+    void same(String what, String got, String want) {
+        count(got.equals(want), what, got, want);
     }
 
     void holds(String what, boolean holds) {
-        due(what, holds ? 1 : 0, 1);
+        count(holds, what, String.valueOf(holds), "true");
+    }
+
+    private void count(boolean right, String what, String got, String want) {
+        made++;
+        if (!right) {
+            wrong++;
+            System.out.println(what + " answered " + got + ", due is " + want);
+        }
+    }
+
+    int made() {
+        return made;
     }
 
     boolean anyWrong() {

@@ -42,20 +42,6 @@ public final class PromisesTest {
         checks.due("promise " + promise + ": " + call, got, want);
     }
 
-    private static void write(LeaningTrees tree, String text) {
-        for (int start = 0; start < text.length(); start += 8) {
-            tree.put(number(text.substring(start, Math.min(start + 8, text.length()))));
-        }
-    }
-
-    private static long number(String characters) {
-        long number = 0;
-        for (int place = 0; place < characters.length(); place++) {
-            number = number << 8 | characters.charAt(place);
-        }
-        return number;
-    }
-
     /** A chain 1, 2, .. to the right, which LEAN 95 lets stand, with nothing paid. */
     private static LeaningTrees chain(int length) {
         LeaningTrees tree = new LeaningTrees();
@@ -63,14 +49,6 @@ public final class PromisesTest {
         tree.set(2, 0);
         for (int key = 1; key <= length; key++) {
             tree.putIn(key, 10 * key);
-        }
-        return tree;
-    }
-
-    private static LeaningTrees fullTree() {
-        LeaningTrees tree = new LeaningTrees();
-        for (int key = 0; key < 60; key++) {
-            tree.putIn(10 * key, key);
         }
         return tree;
     }
@@ -173,7 +151,7 @@ public final class PromisesTest {
     }
 
     private void sixtyNodes() {
-        LeaningTrees tree = fullTree();
+        LeaningTrees tree = Edges.nodes(60);
         due("count(0)", tree.count(0), 60);
         due("putIn(5, 0)", tree.putIn(5, 0), TOO_MANY);
         due("putIn(999, 0)", tree.putIn(999, 0), TOO_MANY);
@@ -307,7 +285,7 @@ public final class PromisesTest {
         tree.set(0, 55);
         tree.set(1, 41);
         tree.set(2, 3);
-        write(tree, "+1;-2");
+        Edges.write(tree, "+1;-2");
         int[] counts = {6, 5, 20, 3, 8, 1000026, 8, 2, 4, 1, 55, 41, 3, 5, 6};
         for (int what = 0; what < counts.length; what++) {
             due("count(" + what + ")", tree.count(what), counts[what]);
@@ -445,7 +423,7 @@ public final class PromisesTest {
         due("count(0): nothing came", tree.count(0), 7);
         due("count(6): nothing was paid", tree.count(6), 0);
         due("putIn(8, 0) as foretold", tree.putIn(8, 0), 8);
-        tree = fullTree();
+        tree = Edges.nodes(60);
         due("wouldCost(5)", tree.wouldCost(5), TOO_MANY);
         due("wouldCost(10)", tree.wouldCost(10), 0);
         due("wouldCost(1000): the first error", tree.wouldCost(1000), BAD_VALUE);
@@ -474,7 +452,7 @@ public final class PromisesTest {
         tree.set(0, 95);
         due("worst(0): none would", tree.worst(0), 0);
         due("worst(1)", tree.worst(1), 0);
-        tree = fullTree();
+        tree = Edges.nodes(60);
         due("worst(0)", tree.worst(0), TOO_MANY);
         due("worst(1)", tree.worst(1), TOO_MANY);
         due("worst(2): the first error", tree.worst(2), BAD_VALUE);
@@ -491,22 +469,22 @@ public final class PromisesTest {
         due("put(a bit above 0 bits)", tree.put(0x010000002bL), BAD_VALUE);
         due("put(the highest bit above 0 bits)", tree.put(Long.MIN_VALUE | 0x2bL), BAD_VALUE);
         due("put(a wrong code ahead)", tree.put(0x202b31L), BAD_VALUE);
-        due("put(eight, the first above 126)", tree.put(0x80L << 56 | number("1234567")), BAD_VALUE);
+        due("put(eight, the first above 126)", tree.put(0x80L << 56 | Edges.number("1234567")), BAD_VALUE);
         due("count(13)", tree.count(13), 0);
         due("put(33)", tree.put(33), 1);
         due("put(126)", tree.put(126), 2);
-        due("put(12345678)", tree.put(number("12345678")), 10);
+        due("put(12345678)", tree.put(Edges.number("12345678")), 10);
         for (int length = 18; length <= 74; length += 8) {
-            due("put(12345678)", tree.put(number("12345678")), length);
+            due("put(12345678)", tree.put(Edges.number("12345678")), length);
         }
-        due("put(1234567)", tree.put(number("1234567")), TOO_MANY);
+        due("put(1234567)", tree.put(Edges.number("1234567")), TOO_MANY);
         due("count(13)", tree.count(13), 74);
-        due("put(123456)", tree.put(number("123456")), 80);
-        due("put(1)", tree.put(number("1")), TOO_MANY);
+        due("put(123456)", tree.put(Edges.number("123456")), 80);
+        due("put(1)", tree.put(Edges.number("1")), TOO_MANY);
         due("put(0): the first error", tree.put(0), BAD_VALUE);
         due("count(14): no change", tree.count(14), 0);
         tree = new LeaningTrees();
-        write(tree, "+12=34");
+        Edges.write(tree, "+12=34");
         tree.carryOut();
         due("value(12): the lowest bits are the last character", tree.value(12), 34);
     }
@@ -514,13 +492,13 @@ public final class PromisesTest {
     private void wipe() {
         LeaningTrees tree = begin("18");
         due("wipe()", tree.wipe(), 0);
-        write(tree, "+12;-3xyz");
+        Edges.write(tree, "+12;-3xyz");
         due("wipe()", tree.wipe(), 9);
         due("count(13)", tree.count(13), 0);
         due("wipe()", tree.wipe(), 0);
         due("fault()", tree.fault(), 0);
         due("count(14): no change", tree.count(14), 0);
-        write(tree, "+7");
+        Edges.write(tree, "+7");
         due("fault() of the new text alone", tree.fault(), NONE);
     }
 
@@ -535,30 +513,30 @@ public final class PromisesTest {
             {"+123=456;-789", NONE}, {"+0=0;-0;!0", NONE}, {"-1;+5=", 6}, {"+1=+2", 3}, {"+1;x", 3}};
         for (Object[] each : want) {
             LeaningTrees tree = new LeaningTrees();
-            write(tree, (String) each[0]);
+            Edges.write(tree, (String) each[0]);
             due("fault() of " + each[0], tree.fault(), (int) each[1]);
             due("count(13): the pad stays", tree.count(13), ((String) each[0]).length());
         }
         LeaningTrees tree = new LeaningTrees();
         for (int times = 0; times < 10; times++) {
-            write(tree, "+1;-1;+2");
+            Edges.write(tree, "+1;-1;+2");
         }
         due("fault() of 80 characters", tree.fault(), 8);
         tree.wipe();
-        write(tree, "+1;+22;+333=4444");
+        Edges.write(tree, "+1;+22;+333=4444");
         due("fault(): a fourth digit of a value", tree.fault(), 15);
     }
 
     private void carryOut() {
         LeaningTrees tree = begin("20");
         due("carryOut() of an empty pad", tree.carryOut(), BAD_TEXT);
-        write(tree, "+5=7;x");
+        Edges.write(tree, "+5=7;x");
         due("carryOut()", tree.carryOut(), BAD_TEXT);
         due("count(13): it stays", tree.count(13), 6);
         due("count(0)", tree.count(0), 0);
         due("count(14)", tree.count(14), 0);
         tree.wipe();
-        write(tree, "+5=7;+6;+7=0;-6;!5;+8=9");
+        Edges.write(tree, "+5=7;+6;+7=0;-6;!5;+8=9");
         due("carryOut()", tree.carryOut(), 6);
         due("count(13)", tree.count(13), 0);
         due("count(14): one change", tree.count(14), 1);
@@ -567,12 +545,12 @@ public final class PromisesTest {
         due("node(6, 5): rebuilt", tree.node(6, 5), NO_SUCH);
         due("value(7)", tree.value(7), 0);
         due("value(8)", tree.value(8), 9);
-        write(tree, "+20;-21;+22");
+        Edges.write(tree, "+20;-21;+22");
         due("carryOut(): up to the first error", tree.carryOut(), 1);
         due("value(20)", tree.value(20), 20);
         due("value(22)", tree.value(22), NONE);
         due("count(13)", tree.count(13), 0);
-        write(tree, "!500;+22");
+        Edges.write(tree, "!500;+22");
         due("carryOut(): none", tree.carryOut(), 0);
         due("count(14): a change, too", tree.count(14), 3);
         due("undo()", tree.undo(), 2);
@@ -582,8 +560,8 @@ public final class PromisesTest {
         due("undo()", tree.undo(), 0);
         due("count(0)", tree.count(0), 0);
         due("count(13): the pad is not undone", tree.count(13), 0);
-        tree = fullTree();
-        write(tree, "+10=5;+5;+20=6");
+        tree = Edges.nodes(60);
+        Edges.write(tree, "+10=5;+5;+20=6");
         due("carryOut(): too many nodes", tree.carryOut(), 1);
         due("value(10)", tree.value(10), 5);
         due("value(20)", tree.value(20), 2);
@@ -626,7 +604,7 @@ public final class PromisesTest {
         tree.save(0);
         tree.restore(0);
         due("count(14) after restore()", tree.count(14), 5);
-        write(tree, "-1");
+        Edges.write(tree, "-1");
         tree.carryOut();
         due("count(14) after carryOut()", tree.count(14), 6);
         tree.undo();
@@ -650,7 +628,7 @@ public final class PromisesTest {
         for (int what = 0; what < 13; what++) {
             before[what] = tree.count(what);
         }
-        write(tree, "+1;+2=3;!1;-3;+20;+21;+22;-22;!22");
+        Edges.write(tree, "+1;+2=3;!1;-3;+20;+21;+22;-22;!22");
         tree.save(1);
         tree.carryOut();
         tree.set(0, 60);
@@ -709,7 +687,7 @@ public final class PromisesTest {
         tree.putIn(1, 7);
         tree.rebuild(1);
         tree.set(0, 90);
-        write(tree, "+9");
+        Edges.write(tree, "+9");
         due("restore(0)", tree.restore(0), 2);
         due("value(1)", tree.value(1), 5);
         due("node(1, 4)", tree.node(1, 4), 4);

@@ -1,36 +1,54 @@
 import java.lang.management.ManagementFactory;
 
-/** What a run makes counts to its end, so no call may make anything: all room is taken by the constructor. */
+/** What a run makes counts to its end, and all of it has to find one room. */
 public final class RoomTest {
-    /** A single row of 60 numbers for each call would already take more. */
-    private static final long MOST_BYTES = 64 * 1024;
+    /** There is room for 600,000 objects and arrays, none of which takes less than 16 bytes. */
+    private static final long MOST_BYTES = 16 * 600_000L;
+    private static final int CALLS = 512;
 
-    private static LeaningTrees busyTree() {
-        LeaningTrees tree = new LeaningTrees();
-        for (int key = 0; key < 50; key++) {
-            tree.putIn(key, key);
-        }
-        return tree;
+    private interface Call {
+        void on(LeaningTrees tree, int time);
     }
 
-    private static void useAll(LeaningTrees tree, int times) {
-        for (int time = 0; time < times; time++) {
-            tree.set(time % 3, 60);
-            tree.putIn(time % 70, time);
-            tree.remove(time % 50);
-            tree.rebuild(time % 50);
-            tree.worst(0);
-            tree.wouldCost(time);
-            tree.meanDepth(1);
-            tree.leaning(time % 50);
-            tree.neighbour(time, time % 2);
-            tree.put(0x2b31L);
-            tree.carryOut();
-            tree.fault();
-            tree.wipe();
-            tree.save(time % 2);
-            tree.restore(time % 2);
-            tree.undo();
+    private static final Call[] DEAREST = {
+        (tree, time) -> tree.set(time % 3, 60),
+        (tree, time) -> tree.putIn(time % 59, time),
+        (tree, time) -> tree.rebuild(290),
+        (tree, time) -> tree.worst(0),
+        (tree, time) -> tree.worst(1),
+        (tree, time) -> tree.wouldCost(995),
+        (tree, time) -> tree.meanDepth(1),
+        (tree, time) -> tree.leaning(10 * (time % 59)),
+        (tree, time) -> tree.neighbour(time, time % 2),
+        (tree, time) -> tree.sum(0, 999),
+        (tree, time) -> tree.count(9),
+        (tree, time) -> tree.node(290, 8),
+        (tree, time) -> tree.save(time % 2),
+        (tree, time) -> tree.restore(0),
+        (tree, time) -> tree.fault(),
+        RoomTest::writeAndUndo};
+
+    private static void writeAndUndo(LeaningTrees tree, int time) {
+        switch (time % 4) {
+            case 0:
+                tree.put(Edges.number("+5;!290"));
+                break;
+            case 1:
+                tree.carryOut();
+                break;
+            case 2:
+                tree.put(Edges.number("12345678"));
+                break;
+            default:
+                tree.undo();
+        }
+    }
+
+    private static void run(Call call) {
+        LeaningTrees tree = Edges.nodes(59);
+        tree.save(0);
+        for (int time = 60; time < CALLS; time++) {
+            call.on(tree, time);
         }
     }
 
@@ -38,13 +56,14 @@ public final class RoomTest {
         Checks checks = new Checks();
         com.sun.management.ThreadMXBean threads =
             (com.sun.management.ThreadMXBean) ManagementFactory.getThreadMXBean();
-        useAll(busyTree(), 100);
-        LeaningTrees tree = busyTree();
         long self = Thread.currentThread().getId();
-        long before = threads.getThreadAllocatedBytes(self);
-        useAll(tree, 1000);
-        long made = threads.getThreadAllocatedBytes(self) - before;
-        checks.holds("the room that the calls took, " + made + " bytes, is small", made < MOST_BYTES);
+        for (int place = 0; place < DEAREST.length; place++) {
+            long before = threads.getThreadAllocatedBytes(self);
+            run(DEAREST[place]);
+            long made = threads.getThreadAllocatedBytes(self) - before;
+            checks.holds("the room that a run of call " + place + " takes, " + made + " bytes, is enough",
+                made <= MOST_BYTES);
+        }
         checks.end("RoomTest");
     }
 }

@@ -2,8 +2,12 @@ import java.util.Random;
 
 /** Long runs of calls, drawn from fixed seeds, in which the program and the model have to answer alike. */
 public final class RunsTest {
-    private static final int RUNS = 300;
+    private static final int RUNS = 2000;
+    /** More calls than that are not promised to be answered. */
     private static final int CALLS = 512;
+    /** The most calls that one step makes: a change and all counts, or a text of 6 orders with its fault. */
+    private static final int STEP = 20;
+    private static final String CHARACTERS = "+-!=;0123456789x~";
     private static final int[] ODD_NUMBERS = {-1, 1000, Integer.MIN_VALUE, Integer.MAX_VALUE, 0, 999};
 
     private final Checks checks = new Checks();
@@ -35,7 +39,10 @@ public final class RunsTest {
     }
 
     private void callAll() {
-        for (int call = 0; call < CALLS && !checks.anyWrong(); call++) {
+        if (run % 5 == 0) {
+            fill();
+        }
+        while (checks.made() + STEP <= CALLS && !checks.anyWrong()) {
             int kind = random.nextInt(100);
             if (kind < 50) {
                 change();
@@ -44,6 +51,17 @@ public final class RunsTest {
             } else {
                 write();
             }
+        }
+        while (checks.made() < CALLS && !checks.anyWrong()) {
+            due("undo()", tree.undo(), model.undo());
+        }
+    }
+
+    /** Some runs begin where the tree is nearly full. */
+    private void fill() {
+        for (int number = 50 + random.nextInt(20); number > 0; number--) {
+            int key = random.nextInt(1000);
+            due("putIn(" + key + ", 1)", tree.putIn(key, 1), model.putIn(key, 1));
         }
     }
 
@@ -99,8 +117,11 @@ public final class RunsTest {
             int key = random.nextInt(3) == 0 ? key() : model.kth(random.nextInt(60));
             due("remove(" + key + ")", tree.remove(key), model.remove(key));
         }
+        boolean all = random.nextInt(8) == 0;
         for (int what = 0; what <= 14; what++) {
-            due("count(" + what + ")", tree.count(what), model.count(what));
+            if (all || random.nextInt(15) == 0) {
+                due("count(" + what + ")", tree.count(what), model.count(what));
+            }
         }
     }
 
@@ -172,14 +193,15 @@ public final class RunsTest {
     private String orders() {
         StringBuilder text = new StringBuilder(model.count(13) == 0 ? "" : ";");
         for (int left = 1 + random.nextInt(6); left > 0; left--) {
-            text.append("++++---!".charAt(random.nextInt(8))).append(random.nextInt(keys));
-            if (random.nextInt(3) == 0 && text.charAt(text.length() - 1) != ';') {
-                text.append(random.nextInt(4) == 0 ? "=" + random.nextInt(1000) : "");
+            char sign = "++++---!".charAt(random.nextInt(8));
+            text.append(sign).append(random.nextInt(keys));
+            if (random.nextInt(sign == '+' ? 3 : 40) == 0) {
+                text.append('=').append(random.nextInt(1000));
             }
             text.append(left == 1 ? "" : ";");
         }
         if (random.nextInt(4) == 0) {
-            text.setCharAt(random.nextInt(text.length()), "+-!=;0123456789x ~".charAt(random.nextInt(16)));
+            text.setCharAt(random.nextInt(text.length()), CHARACTERS.charAt(random.nextInt(CHARACTERS.length())));
         }
         return text.toString();
     }
